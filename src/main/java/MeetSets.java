@@ -18,7 +18,6 @@ public final class MeetSets {
     private static final int MAKER = 0;
     private static final int BREAKER = 1;
 
-    private int n;
     private final int[] costs;
     private final SetRow list;
     private final SetRow others;
@@ -32,7 +31,6 @@ public final class MeetSets {
     private final Asking asking;
 
     public MeetSets() {
-        n = ELEMENTS_AT_FIRST;
         costs = new int[MOST_ELEMENTS];
         Arrays.fill(costs, COST_AT_FIRST);
         list = new SetRow(new int[MOST_SETS], ELEMENTS_AT_FIRST);
@@ -53,7 +51,6 @@ public final class MeetSets {
         if (n < 1 || n > MOST_ELEMENTS) {
             return BAD;
         }
-        this.n = n;
         list.clearFor(n);
         others.clearFor(n);
         return 1;
@@ -144,7 +141,7 @@ public final class MeetSets {
 
     public int otherless() {
         int many = others.size;
-        others.clearFor(n);
+        others.clearFor(list.n);
         return many;
     }
 
@@ -153,7 +150,7 @@ public final class MeetSets {
         if (many > MOST_OTHERS) {
             return NO;
         }
-        others.clearFor(n);
+        others.clearFor(list.n);
         for (int x = 0; x < list.parts; x++) {
             if (list.isLeastMeeter(x)) {
                 others.append(x);
@@ -173,7 +170,7 @@ public final class MeetSets {
     }
 
     public int shares() {
-        sharing.solve(list, costs, n);
+        sharing.solve(list, costs);
         fraction.become(sharing.above(), sharing.below());
         return 1;
     }
@@ -244,11 +241,12 @@ public final class MeetSets {
         if (!isZeroOrOne(begins) || !isZeroOrOne(what)) {
             return BAD;
         }
-        int move = match.winningMove(begins, n);
+        int move = match.winningMove(begins);
         if (what == 1) {
             return move;
         }
-        return move == NONE ? MAKER + BREAKER - begins : begins;
+        int second = begins == MAKER ? BREAKER : MAKER;
+        return move == NONE ? second : begins;
     }
 
     public int chance(int a, int b) {
@@ -259,10 +257,10 @@ public final class MeetSets {
         for (int x = 0; x < list.parts; x++) {
             if (list.isMeeter(x)) {
                 int there = Integer.bitCount(x);
-                above += power(a, there) * power(b - a, n - there);
+                above += power(a, there) * power(b - a, list.n - there);
             }
         }
-        fraction.become(above, power(b, n));
+        fraction.become(above, power(b, list.n));
         return 1;
     }
 
@@ -294,14 +292,14 @@ public final class MeetSets {
         if (list.size == 0 || list.size > MOST_HIDDEN) {
             return NO;
         }
-        asking.prepare(n);
+        asking.prepare();
         return what == 0 ? asking.fewestAtWorst() : asking.firstToAsk();
     }
 
     public int count(int what) {
         switch (what) {
             case 0:
-                return n;
+                return list.n;
             case 1:
                 return list.size;
             case 2:
@@ -318,7 +316,7 @@ public final class MeetSets {
         }
         h = list.mixedInto(h);
         h = others.mixedInto(h);
-        for (int e = 0; e < n; e++) {
+        for (int e = 0; e < list.n; e++) {
             h = 31 * h + costs[e];
         }
         h = 31 * h + meeters();
@@ -331,7 +329,7 @@ public final class MeetSets {
     }
 
     private boolean isElement(int element) {
-        return element >= 0 && element < n;
+        return element >= 0 && element < list.n;
     }
 
     private static boolean isZeroOrOne(int what) {
@@ -340,7 +338,7 @@ public final class MeetSets {
 
     private int priceOf(int x) {
         int price = 0;
-        for (int e = 0; e < n; e++) {
+        for (int e = 0; e < list.n; e++) {
             if ((x >> e & 1) == 1) {
                 price += costs[e];
             }
@@ -374,17 +372,20 @@ public final class MeetSets {
         final int[] rows;
         final int[] inside;
         int size;
+        int n;
         int parts;
 
         SetRow(int[] room, int n) {
             rows = room;
             inside = new int[MOST_PARTS];
             size = 0;
+            this.n = n;
             parts = 1 << n;
         }
 
         void clearFor(int n) {
             size = 0;
+            this.n = n;
             parts = 1 << n;
             Arrays.fill(inside, 0);
         }
@@ -437,8 +438,8 @@ public final class MeetSets {
             if (!isMeeter(x)) {
                 return false;
             }
-            for (int bit = 1; bit < parts; bit <<= 1) {
-                if ((x & bit) != 0 && isMeeter(x ^ bit)) {
+            for (int e = 0; e < n; e++) {
+                if ((x >> e & 1) == 1 && isMeeter(x ^ 1 << e)) {
                     return false;
                 }
             }
@@ -528,8 +529,8 @@ public final class MeetSets {
             return divisor;
         }
 
-        void solve(SetRow list, int[] costs, int n) {
-            lay(list, costs, n);
+        void solve(SetRow list, int[] costs) {
+            lay(list, costs);
             for (int round = 0; round < ROUNDS; round++) {
                 int column = enteringColumn();
                 if (column < 0) {
@@ -544,11 +545,11 @@ public final class MeetSets {
         }
 
         /** The last column has the costs, the last row what a weight adds (below 0: it still pays to raise it). */
-        private void lay(SetRow list, int[] costs, int n) {
-            rows = n;
+        private void lay(SetRow list, int[] costs) {
+            rows = list.n;
             columns = list.size;
             divisor = 1;
-            for (int e = 0; e < n; e++) {
+            for (int e = 0; e < rows; e++) {
                 rowLabels[e] = columns + e;
                 table[e][columns] = costs[e];
                 for (int i = 0; i < columns; i++) {
@@ -557,9 +558,9 @@ public final class MeetSets {
             }
             for (int i = 0; i < columns; i++) {
                 columnLabels[i] = i;
-                table[n][i] = -1;
+                table[rows][i] = -1;
             }
-            table[n][columns] = 0;
+            table[rows][columns] = 0;
         }
 
         private int enteringColumn() {
@@ -742,7 +743,10 @@ public final class MeetSets {
             return list.hasSetIn(w) ? 0 : 1;
         }
 
-        /** The least ELEMENT is held to one colour: the two colours could as well change places. */
+        /**
+         * The least ELEMENT is held to one colour: the two colours could as well change places.
+         * The other colour goes through all parts of the rest, in order as numbers.
+         */
         private int waysByTwo(int w) {
             if (!list.hasSetIn(w)) {
                 return 1 << Integer.bitCount(w);
@@ -837,21 +841,18 @@ public final class MeetSets {
 
         private final SetRow list;
         private final int[] known;
-        private int n;
 
         Match(SetRow list) {
             this.list = list;
             known = new int[STATES / STATES_A_WORD + 1];
-            n = 0;
         }
 
         /** The least ELEMENT by which he who begins wins, or NONE. */
-        int winningMove(int begins, int elements) {
-            n = elements;
+        int winningMove(int begins) {
             Arrays.fill(known, 0);
             boolean makerBegins = begins == MAKER;
-            for (int e = 0; e < n; e++) {
-                if (makerWinsAfter(e, 0, 0, 0, makerBegins, n) == makerBegins) {
+            for (int e = 0; e < list.n; e++) {
+                if (makerWinsAfter(e, 0, 0, 0, makerBegins, list.n) == makerBegins) {
                     return e;
                 }
             }
@@ -878,7 +879,7 @@ public final class MeetSets {
             }
             int tries = worthTaking(maker, breaker, makersTurn);
             boolean wins = !makersTurn;
-            for (int e = 0; e < n && wins != makersTurn; e++) {
+            for (int e = 0; e < list.n && wins != makersTurn; e++) {
                 if ((tries >> e & 1) == 1) {
                     wins = makerWinsAfter(e, maker, breaker, state, makersTurn, left);
                 }
@@ -892,7 +893,8 @@ public final class MeetSets {
             int makerNeeds = 0;
             int breakerNeeds = 0;
             int free = list.parts - 1 & ~(maker | breaker);
-            for (int bit = 1; bit <= free; bit <<= 1) {
+            for (int e = 0; e < list.n; e++) {
+                int bit = 1 << e;
                 if ((free & bit) != 0) {
                     makerNeeds |= list.hasSetIn(maker | bit) ? bit : 0;
                     breakerNeeds |= list.isMeeter(breaker | bit) ? bit : 0;
@@ -918,19 +920,16 @@ public final class MeetSets {
         private final SetRow list;
         private final int[] having;
         private final int[] fewest;
-        private int n;
 
         Asking(SetRow list) {
             this.list = list;
             having = new int[MOST_ELEMENTS];
             fewest = new int[1 << MOST_HIDDEN];
-            n = 0;
         }
 
-        void prepare(int elements) {
-            n = elements;
+        void prepare() {
             Arrays.fill(fewest, UNKNOWN);
-            for (int e = 0; e < n; e++) {
+            for (int e = 0; e < list.n; e++) {
                 having[e] = 0;
                 for (int i = 0; i < list.size; i++) {
                     having[e] |= (list.rows[i] >> e & 1) << i;
@@ -945,7 +944,7 @@ public final class MeetSets {
         int firstToAsk() {
             int all = allHidden();
             int due = fewestFor(all, MOST_HIDDEN);
-            for (int e = 0; e < n && due > 0; e++) {
+            for (int e = 0; e < list.n && due > 0; e++) {
                 if (splits(e, all) && fewestBy(e, all, MOST_HIDDEN) == due) {
                     return e;
                 }
@@ -968,7 +967,7 @@ public final class MeetSets {
             return 1 + Math.max(yes, no);
         }
 
-        /** Unlike SETS can always be told apart by asking for less than all of them, so the start is never kept. */
+        /** Unlike SETS always split, and each question leaves one SET less at least: found never stays at many. */
         private int fewestFor(int lot, int depth) {
             int many = Integer.bitCount(lot);
             if (many <= 1 || depth <= 0) {
@@ -979,7 +978,7 @@ public final class MeetSets {
             }
             int least = leastThinkable(many);
             int found = many;
-            for (int e = 0; e < n && found > least; e++) {
+            for (int e = 0; e < list.n && found > least; e++) {
                 if (splits(e, lot)) {
                     found = Math.min(found, fewestBy(e, lot, depth));
                 }
