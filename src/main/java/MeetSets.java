@@ -119,7 +119,7 @@ public final class MeetSets {
             }
             int price = what == 0 ? 0 : priceOf(x);
             int size = Integer.bitCount(x);
-            if (found == NONE || price < foundPrice || price == foundPrice && size < foundSize) {
+            if (found == NONE || price < foundPrice || (price == foundPrice && size < foundSize)) {
                 found = x;
                 foundPrice = price;
                 foundSize = size;
@@ -275,10 +275,9 @@ public final class MeetSets {
         if (!isElement(element)) {
             return BAD;
         }
-        int bit = 1 << element;
         int many = 0;
         for (int x = 0; x < list.parts; x++) {
-            if ((x & bit) == 0 && !list.isMeeter(x) && list.isMeeter(x | bit)) {
+            if (!has(x, element) && !list.isMeeter(x) && list.isMeeter(x | (1 << element))) {
                 many++;
             }
         }
@@ -332,6 +331,10 @@ public final class MeetSets {
         return element >= 0 && element < list.n;
     }
 
+    private static boolean has(int bits, int i) {
+        return ((bits >> i) & 1) == 1;
+    }
+
     private static boolean isZeroOrOne(int what) {
         return what == 0 || what == 1;
     }
@@ -339,7 +342,7 @@ public final class MeetSets {
     private int priceOf(int x) {
         int price = 0;
         for (int e = 0; e < list.n; e++) {
-            if ((x >> e & 1) == 1) {
+            if (has(x, e)) {
                 price += costs[e];
             }
         }
@@ -430,7 +433,7 @@ public final class MeetSets {
 
         /** What misses a set is just what leaves all of that set outside. */
         boolean isMeeter(int x) {
-            return inside[parts - 1 ^ x] == 0;
+            return inside[(parts - 1) ^ x] == 0;
         }
 
         /** Meeters stay meeters when they grow, so it does to try the parts with one element less. */
@@ -439,7 +442,7 @@ public final class MeetSets {
                 return false;
             }
             for (int e = 0; e < n; e++) {
-                if ((x >> e & 1) == 1 && isMeeter(x ^ 1 << e)) {
+                if (has(x, e) && isMeeter(x ^ (1 << e))) {
                     return false;
                 }
             }
@@ -456,7 +459,7 @@ public final class MeetSets {
 
         /** Goes through all that the set lies in: the next such number is the next number with the set put in. */
         private void tally(int elements, int change) {
-            for (int x = elements; x < parts; x = x + 1 | elements) {
+            for (int x = elements; x < parts; x = (x + 1) | elements) {
                 inside[x] += change;
             }
         }
@@ -553,7 +556,7 @@ public final class MeetSets {
                 rowLabels[e] = columns + e;
                 table[e][columns] = costs[e];
                 for (int i = 0; i < columns; i++) {
-                    table[e][i] = list.rows[i] >> e & 1;
+                    table[e][i] = has(list.rows[i], e) ? 1 : 0;
                 }
             }
             for (int i = 0; i < columns; i++) {
@@ -586,7 +589,7 @@ public final class MeetSets {
         private boolean bindsBefore(int row, int than, int column) {
             long left = table[row][columns] * table[than][column];
             long right = table[than][columns] * table[row][column];
-            return left < right || left == right && rowLabels[row] < rowLabels[than];
+            return left < right || (left == right && rowLabels[row] < rowLabels[than]);
         }
 
         private void pivot(int row, int column) {
@@ -670,7 +673,7 @@ public final class MeetSets {
             int common = set & union;
             if (core == OPEN || common == core) {
                 int newCore = core == OPEN && count == 1 ? common : core;
-                search(i, bits | 1 << i, count + 1, union | set, newCore);
+                search(i, bits | (1 << i), count + 1, union | set, newCore);
             }
         }
     }
@@ -706,7 +709,7 @@ public final class MeetSets {
             int foundSize = 0;
             for (int y = 1; y < list.parts; y++) {
                 int size = Integer.bitCount(y);
-                if (size > foundSize && 1 << size <= list.size && manySeenOf(y) == 1 << size) {
+                if (size > foundSize && (1 << size) <= list.size && manySeenOf(y) == (1 << size)) {
                     found = y;
                     foundSize = size;
                 }
@@ -751,7 +754,7 @@ public final class MeetSets {
             if (!list.hasSetIn(w)) {
                 return 1 << Integer.bitCount(w);
             }
-            int rest = w & w - 1;
+            int rest = w & (w - 1);
             int many = 1 << Integer.bitCount(rest);
             int ways = 0;
             int x = 0;
@@ -759,7 +762,7 @@ public final class MeetSets {
                 if (!list.hasSetIn(x) && !list.hasSetIn(w ^ x)) {
                     ways += 2;
                 }
-                x = x - rest & rest;
+                x = (x - rest) & rest;
             }
             return ways;
         }
@@ -789,15 +792,11 @@ public final class MeetSets {
             return left;
         }
 
-        private boolean isLeft(int i) {
-            return (left >> i & 1) == 1;
-        }
-
         private boolean elementGoes() {
             int once = 0;
             int again = 0;
             for (int i = 0; i < list.size; i++) {
-                if (isLeft(i)) {
+                if (has(left, i)) {
                     again |= once & rest[i];
                     once |= rest[i];
                 }
@@ -812,7 +811,7 @@ public final class MeetSets {
 
         private boolean setGoes() {
             for (int i = 0; i < list.size; i++) {
-                if (isLeft(i) && (rest[i] == 0 || liesInAnother(i))) {
+                if (has(left, i) && (rest[i] == 0 || liesInAnother(i))) {
                     left ^= 1 << i;
                     return true;
                 }
@@ -822,7 +821,7 @@ public final class MeetSets {
 
         private boolean liesInAnother(int i) {
             for (int j = 0; j < list.size; j++) {
-                if (j != i && isLeft(j) && (rest[i] & ~rest[j]) == 0) {
+                if (j != i && has(left, j) && (rest[i] & ~rest[j]) == 0) {
                     return true;
                 }
             }
@@ -873,14 +872,14 @@ public final class MeetSets {
             if (left <= 0 || list.isMeeter(breaker)) {
                 return false;
             }
-            int told = known[state / STATES_A_WORD] >> shiftOf(state) & 3;
+            int told = (known[state / STATES_A_WORD] >> shiftOf(state)) & 3;
             if (told != UNKNOWN) {
                 return told == MAKER_WINS;
             }
-            int tries = worthTaking(maker, breaker, makersTurn);
+            int tries = worthTaking(maker, breaker);
             boolean wins = !makersTurn;
             for (int e = 0; e < list.n && wins != makersTurn; e++) {
-                if ((tries >> e & 1) == 1) {
+                if (has(tries, e)) {
                     wins = makerWinsAfter(e, maker, breaker, state, makersTurn, left);
                 }
             }
@@ -888,24 +887,17 @@ public final class MeetSets {
             return wins;
         }
 
-        /** What wins at once, if anything does; else what the other must not get; else all that is free. */
-        private int worthTaking(int maker, int breaker, boolean makersTurn) {
-            int makerNeeds = 0;
-            int breakerNeeds = 0;
-            int free = list.parts - 1 & ~(maker | breaker);
+        /** By what one of the two would win at once, he takes it or the other must; else all that is free. */
+        private int worthTaking(int maker, int breaker) {
+            int deciding = 0;
+            int free = (list.parts - 1) & ~(maker | breaker);
             for (int e = 0; e < list.n; e++) {
                 int bit = 1 << e;
-                if ((free & bit) != 0) {
-                    makerNeeds |= list.hasSetIn(maker | bit) ? bit : 0;
-                    breakerNeeds |= list.isMeeter(breaker | bit) ? bit : 0;
+                if (has(free, e) && (list.hasSetIn(maker | bit) || list.isMeeter(breaker | bit))) {
+                    deciding |= bit;
                 }
             }
-            int own = makersTurn ? makerNeeds : breakerNeeds;
-            int others = makersTurn ? breakerNeeds : makerNeeds;
-            if (own != 0) {
-                return own;
-            }
-            return others != 0 ? others : free;
+            return deciding != 0 ? deciding : free;
         }
 
         private static int shiftOf(int state) {
@@ -932,7 +924,7 @@ public final class MeetSets {
             for (int e = 0; e < list.n; e++) {
                 having[e] = 0;
                 for (int i = 0; i < list.size; i++) {
-                    having[e] |= (list.rows[i] >> e & 1) << i;
+                    having[e] |= has(list.rows[i], e) ? 1 << i : 0;
                 }
             }
         }
