@@ -1,4 +1,4 @@
-/** Each promise of the document by itself, on lists whose answers can be worked out by hand. */
+/** Each promise of the document by itself, mostly on lists whose answers can be worked out by hand. */
 public final class PromisesTest {
     /** Lines of seven points: any two points lie on one line, any two lines meet in one point. */
     private static final int[] FANO = {7, 25, 97, 42, 82, 76, 52};
