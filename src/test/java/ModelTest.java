@@ -28,6 +28,7 @@ public final class ModelTest {
             checks.due("digest()", x.digest(), y.digest());
         }
         everyQuestionOfLists();
+        gamesOnGreatGrounds();
         checks.end();
     }
 
@@ -46,6 +47,22 @@ public final class ModelTest {
                 if (kind > 4) call(kind);
             }
             checks.same("twoByTwo() is NONE", x.twoByTwo() == MeetSets.NONE, y.lotsThatMeetHaveCommon());
+        }
+    }
+
+    /** Small sets on nine and ten elements, where either may win and many states are gone through. */
+    private void gamesOnGreatGrounds() {
+        for (int round = 0; round < 400 && checks.wrong() < 20; round++) {
+            x = new MeetSets();
+            y = new PlainModel();
+            checks.at("game " + round);
+            ground(9 + round % 2);
+            int many = 4 + random.nextInt(13);
+            for (int i = 0; i < many; i++) set(setOf(2 + (round + random.nextInt(2)) % 4));
+            for (int begins = 0; begins <= 1; begins++) {
+                game(begins, 0);
+                game(begins, 1);
+            }
         }
     }
 

@@ -18,6 +18,7 @@ public final class Promise20EarsTest {
     static void aSetThatLiesInAnotherGoes(Checks c) {
         c.due("a path", Lists.of(3, 3, 6).ears(), 0);
         c.due("a triangle in one set", Lists.of(3, 3, 6, 5, 7).ears(), 0);
+        c.due("a triangle in the first set", Lists.of(3, 7, 3, 6, 5).ears(), 0);
         c.due("a triangle with a tail", Lists.of(5, 3, 24, 6, 5, 12).ears(), 1 | 4 | 8);
     }
 
@@ -25,6 +26,12 @@ public final class Promise20EarsTest {
         c.due("a triangle", Lists.of(3, Lists.TRIANGLE).ears(), 7);
         c.due("fano", Lists.of(7, Lists.FANO).ears(), 127);
         c.due("petersen", Lists.of(10, Lists.PETERSEN).ears(), 32767);
+    }
+
+    static void onlyAnElementInJustOneSetGoes(Checks c) {
+        c.due("0 goes, a triangle is left", Lists.of(4, 7, 12, 10).ears(), 7);
+        c.due("9 goes, a triangle is left", Lists.of(10, 515, 6, 5).ears(), 7);
+        c.due("0 and 9 go, a triangle is left", Lists.of(10, 7, 524, 10).ears(), 7);
     }
 
     static void ofTwoThatAreNowAlikeTheLeastGoes(Checks c) {
