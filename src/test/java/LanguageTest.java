@@ -23,6 +23,10 @@ public final class LanguageTest {
         "\\b(throw|throws|try|catch|synchronized|assert|volatile|native|transient)\\b", "->", "::", "\\bExact\\w*\\(",
         "\\w+Exact\\b", "\\b(Random|System\\.(?!arraycopy)|Thread|Object|var)\\b", "\\b(equals|hashCode|toString)\\b",
         "\\bstatic\\s*\\{", "\\bimport\\s+(?!java\\.util\\.Arrays;)", "@", "\\bpackage\\b"};
+    /** What of the library the class uses: all of it is on the list of rule 4. */
+    private static final Set<String> LIBRARY = Set.of("Arrays.fill", "Integer.bitCount", "Math.min", "Math.max");
+    /** The first line of a method of the class or of one inside it. */
+    private static final String HEAD = "( {4}| {8})[\\w\\[\\] ]+\\(.*\\) \\{";
     private static final int MOST_LINES = 60;
     private static final int MOST_PARAMETERS = 7;
     private static final int MOST_CLASSES = 12;
@@ -37,7 +41,11 @@ public final class LanguageTest {
     private void run() throws IOException {
         face();
         classes();
-        words(withoutComments(Files.readString(SOURCE)));
+        String text = withoutComments(Files.readString(SOURCE));
+        words(text);
+        library(text);
+        lengths(text.split("\n", -1));
+        makings(text.split("\n", -1));
         checks.end();
     }
 
@@ -115,15 +123,36 @@ public final class LanguageTest {
             Matcher m = Pattern.compile(rule).matcher(text);
             checks.same(rule, m.find() ? m.group() : "", "");
         }
+    }
+
+    private void library(String text) {
+        checks.at("rule 4");
+        Matcher m = Pattern.compile("\\b[A-Z]\\w*\\.[a-z]\\w*").matcher(text);
+        while (m.find()) checks.same(m.group() + " is of the library", LIBRARY.contains(m.group()), true);
+        checks.at("rule 3");
+        checks.same("there are texts", text.contains("\""), false);
+        checks.same("there are doubles", Pattern.compile("\\b(double|float)\\b").matcher(text).find(), false);
+    }
+
+    private void lengths(String[] lines) {
         checks.at("rule 11");
         int start = -1;
-        String[] lines = text.split("\n", -1);
         for (int i = 0; i < lines.length; i++) {
-            if (lines[i].matches("( {4}| {8})[\\w\\[\\] ]+\\(.*\\) \\{")) start = i;
+            if (lines[i].matches(HEAD)) start = i;
             if (start >= 0 && lines[i].matches("( {4}| {8})\\}")) {
                 checks.same("the method in line " + (start + 1) + " is short", i - start < MOST_LINES, true);
                 start = -1;
             }
+        }
+    }
+
+    /** All calls of a run live in one room, so whatever an object needs is made with it. */
+    private void makings(String[] lines) {
+        checks.at("rule 12");
+        boolean constructor = false;
+        for (int i = 0; i < lines.length; i++) {
+            if (lines[i].matches(HEAD)) constructor = lines[i].matches(" +(public )?[A-Z]\\w*\\(.*");
+            if (lines[i].matches(".*\\bnew\\b.*")) checks.same("line " + (i + 1) + " is of a constructor", constructor, true);
         }
     }
 

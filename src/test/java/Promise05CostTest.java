@@ -1,3 +1,5 @@
+import java.util.Arrays;
+
 /** Promise 5, cost: COST: what it was. BAD. */
 public final class Promise05CostTest {
     public static void main(String[] args) {
@@ -56,6 +58,25 @@ public final class Promise05CostTest {
                 Held.staysInAll(c, "cost(" + e + ", " + v + ")", x -> x.cost(e, v), MeetSets.BAD);
             }
         }
+    }
+
+    /** No word of the document but CHEAPEST, SHARES and digest speaks of COST. */
+    static void noOtherCallLooksAtCosts(Checks c) {
+        for (int[] sets : new int[][] {Lists.NO_SETS, Lists.TRIANGLE, Lists.FANO, Lists.FIVE_PAIRS, Lists.PETERSEN_AND_ALL}) {
+            MeetSets x = Lists.of(10, sets);
+            MeetSets y = Lists.of(10, sets);
+            for (int e = 0; e < 10; e++) y.cost(e, 20 - 2 * e);
+            c.same("a list of " + sets.length, answersWithoutCosts(y), answersWithoutCosts(x));
+        }
+    }
+
+    private static String answersWithoutCosts(MeetSets x) {
+        long[] row = {
+            x.meeters(), x.meeter(0), x.best(0), x.take(), x.witness(), x.apart(), x.star(0), x.star(1), x.seen(7),
+            x.dimension(0), x.dimension(1), x.colourings(2), x.colourings(3), x.colouring(), x.ears(), x.twoByTwo(),
+            x.game(0, 1), x.game(1, 1), x.chance(1, 3), x.part(0), x.part(1), x.swings(9), x.questions(0), x.questions(1),
+            x.count(0), x.count(1), x.count(2), x.otherless(), x.drop()};
+        return Arrays.toString(row);
     }
 
     static void allElseStays(Checks c) {

@@ -34,6 +34,9 @@ public final class Promise08BestTest {
         MeetSets many = Lists.of(4, 3, 5, 9);
         many.cost(0, 3);
         c.due("one for three, not three for three", many.best(1), 1);
+        MeetSets last = Lists.of(4, 9, 10, 12);
+        last.cost(3, 3);
+        c.due("one for three, though its number is greater", last.best(1), 8);
         MeetSets like = Lists.of(4, 6);
         c.due("of two like ones the least", like.best(1), 2);
         like.cost(1, 2);

@@ -48,6 +48,14 @@ public final class Promise22GameTest {
         is(c, "BREAKER, of two singles", Lists.of(10, 4, 512), 0, 0, 0, MeetSets.NONE);
     }
 
+    /** Lists whose outcome changes if what is kept of one state were taken for another's. */
+    static void whereManyStatesAreGoneThrough(Checks c) {
+        is(c, "eight of ten", Lists.of(10, 258, 560, 25, 448, 324, 584, 112, 386), 0, 6, 1, 6);
+        is(c, "four of ten", Lists.of(10, 104, 84, 288, 768), 0, 8, 1, 5);
+        is(c, "eleven of nine", Lists.of(9, 153, 290, 168, 296, 97, 142, 448, 112, 389, 176, 134), 0, 2, 1, 5);
+        is(c, "fourteen of eight", Lists.of(8, 75, 176, 56, 180, 209, 106, 98, 73, 100, 84, 196, 193, 134, 43), 0, 4, 1, 5);
+    }
+
     static void ofAFullList(Checks c) {
         is(c, "petersen and all", Held.TEN_FULL.make(), 0, 0, 0, MeetSets.NONE);
         is(c, "one to sixteen", Lists.oneToSixteen(5), 0, 0, 0, MeetSets.NONE);
